@@ -476,9 +476,14 @@ public final class SixHands {
         return kind == TWO_RODS ? hold : hold >> 1;
     }
 
-    /** The puppeteer of the lowest of hands; hands aren't empty. */
+    /** The puppeteer of the lowest of some hands. */
     private static int ownerOfHands(int hands) {
-        return Integer.numberOfTrailingZeros(hands) >> 1;
+        for (int p = 0; p < MOST_PUPPETEERS; p++) {
+            if ((hands >> 2 * p & 3) != 0) {
+                return p;
+            }
+        }
+        return 0;
     }
 
     /** The bit of a pass among those of all puppeteers to all. */
@@ -1241,7 +1246,7 @@ public final class SixHands {
 
         /** The hands that a figure wants, if the lowest of some is among them. */
         static int wantedWith(int kind, int hands) {
-            return kind == TWO_RODS ? 3 << 2 * ownerOfHands(hands) : Integer.lowestOneBit(hands);
+            return kind == TWO_RODS ? 3 << 2 * ownerOfHands(hands) : hands & -hands;
         }
 
         static boolean isHeldApart(Stage stage, int beat) {
@@ -1344,7 +1349,8 @@ public final class SixHands {
         int price;
         private int beats;
         private int figures;
-        private int spare;
+        private int handsThere;
+        private int hooks;
         private final int[] kind = new int[MOST_FIGURES];
         private final int[] order = new int[MOST_HANDS];
         /** For each cell: where (or OFF), which holds may be tried, which passes may be. */
@@ -1362,7 +1368,8 @@ public final class SixHands {
         void load(Stage stage, Laws laws, int set, int struck) {
             beats = stage.beats;
             figures = stage.figures;
-            spare = 2 * Integer.bitCount(set) + stage.hooks;
+            handsThere = 2 * Integer.bitCount(set);
+            hooks = stage.hooks;
             for (int hand = 0; hand < stage.hands(); hand++) {
                 order[hand] = stage.orderOf(hand);
             }
@@ -1393,7 +1400,7 @@ public final class SixHands {
             return first < beats ? cheapest[first] : 0;
         }
 
-        /** Whether hooks and hands are enough for all figures, whoever holds which. */
+        /** Whether hands are enough for those on, and hooks and hands for all, whoever holds which. */
         boolean isRoomFor(int beat) {
             int wanted = 0;
             int off = 0;
@@ -1404,11 +1411,11 @@ public final class SixHands {
                     wanted += kind[figure] == TWO_RODS ? 2 : 1;
                 }
             }
-            return wanted + off <= spare;
+            return wanted <= handsThere && wanted + off <= handsThere + hooks;
         }
 
         /** Lays all states of a beat that begin with a state of the figures ahead of one. */
-        void lay(int beat, int figure, int state, int busy) {
+        private void lay(int beat, int figure, int state, int busy) {
             if (figure >= figures) {
                 keep(beat, state);
                 return;
@@ -1419,8 +1426,12 @@ public final class SixHands {
                 return;
             }
             for (int hold = 0; hold < MOST_HANDS; hold++) {
+                if ((holds[cell] >> hold & 1) == 0) {
+                    continue;
+                }
                 int hands = handsOf(kind[figure], hold);
-                if ((holds[cell] >> hold & 1) != 0 && (hands & busy) == 0 && !isCrossing(hands, spot[cell], busy)) {
+                int lowest = kind[figure] == TWO_RODS ? 2 * hold : hold;
+                if ((hands & busy) == 0 && !isCrossing(lowest, spot[cell], busy)) {
                     putHands(hands, spot[cell]);
                     lay(beat, figure + 1, state << 3 | hold, busy | hands);
                 }
@@ -1434,9 +1445,9 @@ public final class SixHands {
             }
         }
 
-        /** Both hands of one are next to each other in the order, so the lowest tells for both. */
-        boolean isCrossing(int hands, int place, int busy) {
-            int mine = order[Integer.numberOfTrailingZeros(hands)];
+        /** Both hands of one are next to each other in the order, so the left one tells for both. */
+        boolean isCrossing(int lowest, int place, int busy) {
+            int mine = order[lowest];
             for (int hand = 0; hand < MOST_HANDS; hand++) {
                 if ((busy >> hand & 1) != 0) {
                     boolean wrong = order[hand] < mine ? handSpot[hand] > place : handSpot[hand] < place;
@@ -1458,12 +1469,26 @@ public final class SixHands {
 
         void priceAll(int beat) {
             int base = beat * MOST_STATES;
-            int staying = beat + 1 < beats ? stayingBits(beat + 1) : 0;
+            boolean isLast = beat + 1 >= beats;
+            int staying = isLast ? 0 : stayingBits(beat + 1);
+            // With the same figures on, each state but the same one asks for a swap.
+            int floor = isLast ? 0 : cheapest[beat + 1] + (isSameCast(beat + 1) ? price : 0);
             cheapest[beat] = NEVER;
             for (int i = base; i < base + count[beat]; i++) {
-                togo[i] = beat + 1 < beats ? priceOnward(beat + 1, states[i], staying) : 0;
+                togo[i] = isLast ? 0 : priceOnward(beat + 1, states[i], staying, floor);
                 cheapest[beat] = Math.min(cheapest[beat], togo[i]);
             }
+        }
+
+        /** Whether those that are on in a beat are those of the one ahead. */
+        boolean isSameCast(int beat) {
+            for (int figure = 0; figure < figures; figure++) {
+                int cell = beat * MOST_FIGURES + figure;
+                if ((spot[cell] == OFF) != (spot[cell - MOST_FIGURES] == OFF)) {
+                    return false;
+                }
+            }
+            return true;
         }
 
         /** The bits in a state of the figures that are on in a beat and in the one ahead. */
@@ -1479,16 +1504,34 @@ public final class SixHands {
             return bits;
         }
 
-        /** The least price from a state of the beat ahead through a beat to the end. */
-        int priceOnward(int beat, int state, int staying) {
-            int best = NEVER;
+        /** The least price from a state of the beat ahead through a beat to the end; none is below the floor. */
+        int priceOnward(int beat, int state, int staying, int floor) {
+            int best = priceOfSame(beat, state);
             int base = beat * MOST_STATES;
-            for (int i = base; i < base + count[beat] && best > cheapest[beat]; i++) {
+            for (int i = base; i < base + count[beat] && best > floor; i++) {
                 if (togo[i] < best) {
                     best = Math.min(best, togo[i] + priceOfSwaps(beat, state, states[i], staying));
                 }
             }
             return best;
+        }
+
+        /** What is to be paid if a state goes on into a beat; the beat's states are in rising order. */
+        int priceOfSame(int beat, int state) {
+            int low = beat * MOST_STATES;
+            int high = low + count[beat] - 1;
+            while (low <= high) {
+                int middle = (low + high) / 2;
+                if (states[middle] == state) {
+                    return togo[middle];
+                }
+                if (states[middle] < state) {
+                    low = middle + 1;
+                } else {
+                    high = middle - 1;
+                }
+            }
+            return NEVER;
         }
 
         int priceOfSwaps(int beat, int before, int now, int staying) {
