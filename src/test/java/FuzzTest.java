@@ -319,7 +319,8 @@ public final class FuzzTest {
     private String spoiled(String text) {
         StringBuilder bad = new StringBuilder(text);
         String[] bits = {"(", ")", "not ", "-", "- - ", ";", "may ", "pass ", "shows ", "who", "to", "at", "beat;", "10000", "9999",
-            "6", "8", "and ", "or ", "<", "=", "<=", ",", "#", "?", "\t", " ", "((((", "-----", "not not not ", "Figure", "x", "seat"};
+            "6", "8", "and ", "or ", "<", "=", "<=", ",", "#", "?", "\t", " ", "((((", "-----", "not not not ", "Figure", "x", "seat",
+            "1*2-(((((((", "-------", "not not not not not not ", "from", "many", "right", "may 1=1;", "pass 1=1;"};
         int times = 1 + below(3);
         for (int i = 0; i < times; i++) {
             int place = below(bad.length() + 1);

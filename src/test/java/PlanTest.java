@@ -22,6 +22,7 @@ public final class PlanTest {
         illBehindOddHolds();
         bound();
         sees();
+        askedAgain();
         Due.close();
     }
 
@@ -548,5 +549,49 @@ public final class PlanTest {
         Due.rule(x, "shows kind=2-figure/2*2+figure/2*2 or beat=0 and figure=0;");
         Due.is("by kind", 4, x.sees(1, 0));
         Due.is("by beat", 5, x.sees(0, 0));
+    }
+
+    private static String all(SixHands x) {
+        return x.fewest(1) + " " + x.least() + " " + x.strike(1, 0) + " " + x.strike(1, 1) + " " + x.bound(1) + " " + x.judge(1) + " "
+            + x.ill(0, 0);
+    }
+
+    private static void now(String what, String want, SixHands x) {
+        String got = all(x);
+        Due.yes(what + ": " + got + ", due is " + want, got.equals(want));
+    }
+
+    /** What was answered once is answered anew when something it rests on has changed. */
+    private static void askedAgain() {
+        SixHands x = new SixHands(3);
+        now("nothing", "-1 0 -1 -1 -1 0 -1", x);
+        x.puppeteer(0, 1);
+        now("a puppeteer", "0 0 0 0 0 0 -1", x);
+        x.figure(0, 2);
+        Due.play(x, "enter 0 at 1;beat;beat;");
+        now("a play", "0 1 0 0 0 1 -1", x);
+        x.take(1);
+        now("a plan", "0 1 0 0 0 0 -1", x);
+        x.image();
+        x.figure(0, 2);
+        x.figure(0, 2);
+        now("two more hang nowhere", "-1 -1 -1 -1 0 6 -1", x);
+        x.rules(2, 0);
+        now("two hooks", "0 1 0 0 0 0 -1", x);
+        x.puppeteer(0, 1);
+        now("another", "0 1 0 0 0 0 0", x);
+        Due.rule(x, "may who=1;");
+        now("a law", "-1 2 1 2 1 5 0", x);
+        x.rules(0, 0);
+        now("no hooks", "-1 3 -1 -1 1 5 -1", x);
+        x.rules(3, 0);
+        x.by(-1);
+        now("no law", "0 1 0 0 0 0 0", x);
+        Due.play(x, "go 0 to 2;beat;");
+        now("out of reach", "-1 -1 1 4 1 1 -1", x);
+        x.back();
+        now("back", "0 1 0 0 0 0 -1", x);
+        x.clear();
+        now("cleared", "0 0 0 0 0 0 -1", x);
     }
 }

@@ -9,6 +9,7 @@ public final class TextTest {
         faultsOfAsks();
         faultsOfNames();
         tooDeep();
+        longTexts();
         tooMany();
         arithmetic();
         truths();
@@ -71,6 +72,13 @@ public final class TextTest {
         bad("Beat;", 1, 0);
         bad("beats;", 1, 0);
         bad("figurefigure;", 1, 0);
+        for (char letter : new char[] {'a', 'z', 'A', 'Z'}) {
+            bad("beat" + letter + ";", 1, 0);
+        }
+        for (char none : new char[] {'@', '[', '`', '{', '!', ':'}) {
+            bad("beat" + none + ";", 1, 4);
+            bad("exit 1" + none + ";", 1, 6);
+        }
         bad("?", 1, 0);
         bad("beat;\t", 1, 5);
         bad("beat;\r\n", 1, 5);
@@ -173,6 +181,22 @@ public final class TextTest {
         good("may -------(1)+-------(1)=1;");
         bad("may -------(1)+-------((1))=1;", 3, 23);
         bad("may ((((((((not", 1, 12);
+        bad("may 1+1+1+(((((((((1", 3, 18);
+        bad("may 1*1*1*1=1 and 1=1 and 1=1 or ---------1", 3, 41);
+        bad("may not 1=1 or not 1=1 or (((((((((1", 3, 34);
+        bad("may (1)*(1)+(((((((((1", 3, 20);
+        bad("may -1-1-(((((((((1", 3, 17);
+    }
+
+    private static void longTexts() {
+        good("may " + "1+".repeat(146) + "1=1;");
+        bad("may " + "1+".repeat(148), 1, 300);
+        bad("may " + "1+".repeat(147) + "1=", 1, 300);
+        good("\n".repeat(295) + "beat;");
+        good(" ".repeat(300));
+        bad(" ".repeat(296) + "beat", 1, 300);
+        bad(" ".repeat(299) + "<", 1, 299);
+        bad("may 1" + " ".repeat(294) + "<", 1, 300);
     }
 
     private static void tooMany() {
