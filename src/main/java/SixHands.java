@@ -1568,9 +1568,11 @@ public final class SixHands {
                 int i = firstAt(beat, before, due);
                 before = states[i];
                 due = togo[i];
-                for (int figure = 0; figure < figures; figure++) {
+                // Rows of figures that aren't told stay empty too: one that comes later is held by none.
+                for (int figure = 0; figure < MOST_FIGURES; figure++) {
                     int cell = beat * MOST_FIGURES + figure;
-                    plans[start + cell] = spot[cell] == OFF ? 0 : handsIn(before, figure);
+                    boolean isOff = figure >= figures || spot[cell] == OFF;
+                    plans[start + cell] = isOff ? 0 : handsIn(before, figure);
                 }
             }
         }

@@ -16,10 +16,11 @@ public final class FuzzTest {
         int wrong = 0;
         for (int seed = first; seed < first + runs && wrong < 3; seed++) {
             FuzzTest test = new FuzzTest(seed);
-            if (seed % 2 == 0) {
-                test.run();
-            } else {
-                test.askAll();
+            switch (seed % 4) {
+                case 0 -> test.run();
+                case 1 -> test.askAll();
+                case 2 -> test.goBack();
+                default -> test.callAny();
             }
             if (test.pair.differs) {
                 wrong++;
@@ -138,6 +139,127 @@ public final class FuzzTest {
             }
         }
         spoilPlan(puppeteers, figures, beats);
+    }
+
+    /** Goes back to images of booths that lack much of what was told behind them, and tells other things there. */
+    private void goBack() {
+        for (int i = 0; i < 3 && !pair.differs; i++) {
+            tellSome(below(3));
+            if (chance(60)) {
+                playSome(2 + below(3));
+            }
+            if (chance(60)) {
+                pair.call("image");
+            }
+            tellSome(1 + below(4));
+            playSome(2 + below(4));
+            if (chance(40)) {
+                ruleSome();
+            }
+            searchSome();
+            askState();
+            pair.call("back");
+            askState();
+            if (chance(70)) {
+                playSome(2 + below(4));
+            }
+            searchSome();
+            tellSome(1 + below(3));
+            askState();
+            searchSome();
+        }
+    }
+
+    /** Calls in any order, each method as likely as the others but for those that build. */
+    private void callAny() {
+        String[] asks = {"at", "held", "judge", "swaps", "longest", "fewest", "found", "take", "take", "least", "strike", "ill", "bound",
+            "sees", "image", "back", "back", "about", "hold", "hold", "clear", "by", "played", "played", "fault", "text", "end"};
+        for (int i = 0; i < 150 && !pair.differs; i++) {
+            if (chance(25)) {
+                tellSome(1);
+            } else if (chance(25)) {
+                readShort();
+            } else {
+                callOne(asks[below(asks.length)]);
+            }
+        }
+    }
+
+    private void readShort() {
+        String[] plays = {"beat;enter 0 at 0;", "enter 0 at 1;beat;", "enter 1 at 0;beat;", "beat;enter 2 at 2;", "beat;go 0 to 2;beat;",
+            "exit 0;beat;", "hit 0,1;beat;", "enter 3 at 1;beat;", "may who#figure;", "may right=0;", "pass from<to;", "pass to=1;",
+            "shows seat<place;", "shows many=1;beat;", "exit 1;enter 1 at 1;", "may beat<2;beat;"};
+        int text = pair.read(plays[below(plays.length)]);
+        pair.call(chance(70) ? "played" : "by", text);
+    }
+
+    private void callOne(String name) {
+        int beats = Math.max(1, pair.theirs.about(7));
+        int beat = near(0, Math.min(beats, 9) - 1);
+        int set = chance(50) ? pair.theirs.everybody() : near(0, 7);
+        switch (name) {
+            case "at", "held" -> pair.call(name, beat, near(0, 3));
+            case "judge", "fault" -> pair.call(name, near(0, 1));
+            case "longest" -> pair.call(name, near(0, 5));
+            case "fewest", "take", "bound" -> pair.call(name, set);
+            case "found" -> pair.call(name, set, beat, near(0, 3));
+            case "strike" -> pair.call(name, set, near(0, 1));
+            case "ill" -> pair.call(name, near(0, 2), beat);
+            case "sees" -> pair.call(name, beat, near(0, 7));
+            case "about" -> pair.call(name, below(30) - 1);
+            case "hold" -> pair.call(name, beat, near(0, 3), chance(60) ? 1 << below(6) : near(0, 63));
+            case "by", "played" -> pair.call(name, near(-1, 3));
+            case "end" -> pair.call(name, near(0, 20));
+            default -> pair.call(name);
+        }
+    }
+
+    private void tellSome(int many) {
+        for (int i = 0; i < many; i++) {
+            if (chance(40)) {
+                pair.call("puppeteer", near(0, pair.theirs.places - 1), 2 + below(6));
+            } else if (chance(80)) {
+                pair.call("figure", chance(15) ? 2 : below(2), near(1, 9));
+            } else {
+                pair.call("rules", chance(60) ? 6 : below(6), below(5));
+            }
+        }
+    }
+
+    private void searchSome() {
+        int everybody = pair.theirs.everybody();
+        for (int i = 0; i < 4; i++) {
+            int set = chance(70) ? everybody : below(8);
+            switch (below(8)) {
+                case 0, 1 -> pair.call("fewest", set);
+                case 2, 3, 4 -> pair.call("take", set);
+                case 5 -> pair.call("strike", set, below(2));
+                case 6 -> pair.call("least");
+                default -> holdSome();
+            }
+        }
+    }
+
+    /** Every answer about what is told and played, for figures and hands that aren't there too. */
+    private void askState() {
+        for (int what = 0; what < 26; what++) {
+            pair.call("about", what);
+        }
+        for (int beat = -1; beat <= Math.min(12, pair.theirs.about(7)); beat++) {
+            for (int f = 0; f < 6; f++) {
+                pair.call("at", beat, f);
+                pair.call("held", beat, f);
+            }
+            pair.call("sees", beat, below(pair.theirs.places));
+            pair.call("ill", below(3), beat);
+        }
+        for (int hand = 0; hand < 6; hand++) {
+            pair.call("longest", hand);
+        }
+        pair.call("swaps");
+        pair.call("judge", 0);
+        pair.call("judge", 1);
+        pair.call("bound", pair.theirs.everybody());
     }
 
     private void spoilPlan(int puppeteers, int figures, int beats) {

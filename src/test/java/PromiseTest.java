@@ -18,6 +18,7 @@ public final class PromiseTest {
         holdAndHeld();
         imageAndBack();
         back();
+        takeBehindBack();
         about();
         order();
         Due.close();
@@ -372,6 +373,42 @@ public final class PromiseTest {
         x.rules(4, 0);
         Due.is("back twice", 2, x.back());
         Due.is("hooks", 0, x.about(3));
+    }
+
+    /** Promises 27, 20 and 3: what was found ahead of back holds no figure that is told behind it. */
+    private static void takeBehindBack() {
+        for (int set = 1; set < 8; set++) {
+            SixHands x = new SixHands(5);
+            for (int i = 0; i < 3; i++) {
+                x.puppeteer(2, 7);
+            }
+            x.figure(0, 1);
+            x.image();
+            x.figure(1, 1);
+            x.figure(0, 1);
+            x.rules(6, 0);
+            boolean alone = Integer.bitCount(set) == 1;
+            String others = alone ? "enter 2 at 2;" : "enter 1 at 2;enter 2 at 2;";
+            Due.play(x, "enter 0 at 2;" + others + "beat;beat;beat;");
+            Due.is("taken by " + set, 0, x.take(set));
+            Due.yes("2 is held", x.held(2, 2) > 0);
+            Due.is("back", 0, x.back());
+            Due.play(x, "enter 0 at 1;beat;beat;");
+            Due.is("taken by " + set, 0, x.take(set));
+            Due.is("a figure", 1, x.figure(0, 1));
+            Due.is("one more", 2, x.figure(2, 1));
+            Due.play(x, "beat;");
+            for (int beat = 0; beat < 3; beat++) {
+                Due.is("0 is held", beat < 2 ? 1 << 2 * Integer.numberOfTrailingZeros(set) : 0, x.held(beat, 0));
+                for (int figure = 1; figure < 3; figure++) {
+                    Due.is("off", -1, x.at(beat, figure));
+                    Due.is("held by none", 0, x.held(beat, figure));
+                }
+            }
+            x.rules(6, 0);
+            Due.is("the first that can't be", 2, x.judge(0));
+            Due.is("only 0's hand", 2, x.longest(2 * Integer.numberOfTrailingZeros(set)));
+        }
     }
 
     /** Promise 28. */
