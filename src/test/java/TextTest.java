@@ -14,6 +14,7 @@ public final class TextTest {
         arithmetic();
         truths();
         tapeBehindText();
+        behindFaultyOnes();
         Due.close();
     }
 
@@ -272,5 +273,28 @@ public final class TextTest {
         Due.is("texts", 4, x.about(5));
         Due.is("the third is as it was", -1, x.played(2));
         Due.is("its beats", 2, x.about(7));
+    }
+
+    /** What was read of texts with a fault, or of those that back took away, is no part of the next one. */
+    private static void behindFaultyOnes() {
+        SixHands x = new SixHands(3);
+        x.figure(0, 1);
+        Due.play(x, "enter 0 at 0;beat;");
+        x.image();
+        String sum = "+1".repeat(120);
+        for (int i = 0; i < 6; i++) {
+            Due.is("a long one with a fault", -1, Due.read(x, "may 0" + sum + "=120 and 1=1;exit"));
+            Due.is("fault", 1, x.fault(0));
+            Due.is("a long one", 1, Due.read(x, "shows seat" + sum + "=121;"));
+            x.by(1);
+            Due.is("not from seat 0", 0, x.sees(0, 0));
+            Due.is("from seat 1", 1, x.sees(0, 1));
+            Due.is("back", 1, x.back());
+            Due.is("no law", 1, x.sees(0, 0));
+            Due.is("no law", 1, Due.read(x, "beat;"));
+            x.by(1);
+            Due.is("without shows", 1, x.sees(0, 0));
+            x.back();
+        }
     }
 }
