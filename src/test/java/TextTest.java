@@ -15,6 +15,7 @@ public final class TextTest {
         truths();
         tapeBehindText();
         behindFaultyOnes();
+        cutTokens();
         Due.close();
     }
 
@@ -296,5 +297,30 @@ public final class TextTest {
             Due.is("without shows", 1, x.sees(0, 0));
             x.back();
         }
+    }
+
+    /** Bytes that end() took away are no part of the last token. */
+    private static void cutTokens() {
+        cut("exit 12;", 6, 1, 6);
+        cut("beat;exit 10000;", 11, 1, 11);
+        cut("beat;beatx", 9, 1, 9);
+        cut("may 1<=2;", 6, 1, 6);
+        cut("may 1<=(2", 8, 1, 8);
+        cut("beat; x", 6, 0, -1);
+        cut("beat;beat;", 5, 0, -1);
+        String full = "beat;".repeat(49) + " ".repeat(49) + "exit 1";
+        bad(full, 1, 300);
+        bad("beat;".repeat(49) + " ".repeat(51) + "beat", 1, 300);
+        bad("may 1<1;" + " ".repeat(286) + "pass 1", 1, 300);
+        bad("may 1<1;" + " ".repeat(285) + "pass 1<", 1, 300);
+    }
+
+    private static void cut(String text, int length, int fault, int place) {
+        SixHands x = new SixHands(8);
+        Due.put(x, text);
+        x.end(length);
+        Due.is("text of " + length + " of " + text, fault == 0 ? 0 : -1, x.text());
+        Due.is("fault", fault, x.fault(0));
+        Due.is("place", place, x.fault(1));
     }
 }
