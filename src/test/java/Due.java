@@ -5,15 +5,33 @@ import java.util.List;
 final class Due {
     private static int wrong;
     private static int asked;
+    private static String sentence = "";
 
     private Due() { }
+
+    /** The words of a promise (0: of what stands ahead of the first) that the next answers are held to. */
+    static void says(int promise, String words) {
+        sentence = (promise == 0 ? "ahead of promise 1: " : "promise " + promise + ": ") + words;
+    }
 
     static void is(String what, long want, long got) {
         asked++;
         if (got != want) {
             wrong++;
-            System.out.println(what + ": answered " + got + ", due is " + want);
+            System.out.println(what + ": answered " + got + ", due is " + want + place());
         }
+    }
+
+    static void same(String what, String want, String got) {
+        asked++;
+        if (!got.equals(want)) {
+            wrong++;
+            System.out.println(what + ": answered" + System.lineSeparator() + got + ", due is" + System.lineSeparator() + want + place());
+        }
+    }
+
+    private static String place() {
+        return sentence.isEmpty() ? "" : " (" + sentence + ")";
     }
 
     static void yes(String what, boolean got) {
