@@ -325,7 +325,7 @@ public final class BoothBoundaryTest {
     }
 
     private static void imageOfAll() {
-        Due.says(0, "AN IMAGE: all as it is, but the tape and the latest FAULT.");
+        Due.says(0, "BACK: all is so again.");
         SixHands x = Booths.ripe();
         String before = Portrait.of(x);
         x.image();
@@ -338,11 +338,14 @@ public final class BoothBoundaryTest {
         x.by(2);
         x.hold(0, 0, 1);
         Due.put(x, "beat;enter 2 at 2;");
+        Due.no("another one meanwhile", before.equals(Portrait.of(x)));
         x.back();
         Due.same("all but the tape", before, Portrait.of(x));
-        x.clear();
-        x.back();
-        Due.same("behind clear", before, Portrait.of(x));
+        SixHands cleared = Booths.ripe();
+        cleared.image();
+        cleared.clear();
+        cleared.back();
+        Due.same("behind clear", before, Portrait.of(cleared));
         SixHands full = Booths.full();
         full.by(-1);
         String whole = Portrait.of(full);
@@ -354,7 +357,7 @@ public final class BoothBoundaryTest {
     }
 
     private static void imageWithoutTheTape() {
-        Due.says(0, "BACK: all is so again.");
+        Due.says(0, "AN IMAGE: all as it is, but the tape and the latest FAULT.");
         SixHands x = new SixHands(4);
         x.feed(0x62656174, 0x3B626561, 0x743B0000, 0, 0);
         x.image();

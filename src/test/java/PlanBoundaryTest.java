@@ -137,6 +137,14 @@ public final class PlanBoundaryTest {
         two.hold(0, 0, 4);
         two.hold(0, 1, 2);
         why("the last out of reach", two, 3);
+        SixHands gone = booth(3, 1);
+        Booths.stand(gone, 4);
+        gone.hold(0, 0, 1);
+        why("in reach", gone, 0);
+        gone.clear();
+        Due.play(gone, "enter 0 at 5;beat;");
+        gone.hold(0, 0, 1);
+        why("the next place isn't", gone, 3);
     }
 
     private static void noTwoCross() {

@@ -292,6 +292,23 @@ public final class PlayBoundaryTest {
             Due.is("of each text its own clause", text, x.played(text));
         }
         Due.is("beats of all", 6, x.about(7));
+        SixHands asked = new SixHands(8);
+        asked.puppeteer(3, 1);
+        asked.figure(0, 1);
+        asked.rules(1, 0);
+        Due.play(asked, "enter 0 at 4;beat;");
+        sought(asked, 0, 0, 0, 0);
+        Due.is("out of reach now", -1, Due.play(asked, "go 0 to 5;beat;"));
+        sought(asked, -1, -1, 2, 1);
+        Due.is("no further", 1, Due.play(asked, "go 0 to 6;exit 1;beat;"));
+        sought(asked, -1, -1, 3, 1);
+    }
+
+    private static void sought(SixHands x, int fewest, int least, int lost, int bound) {
+        Due.is("fewest", fewest, x.fewest(1));
+        Due.is("least", least < 0 ? -1 : 1, x.least());
+        Due.is("lost by what is struck", lost, x.strike(1, 1));
+        Due.is("bound", bound, x.bound(1));
     }
 
     private static void playedRefused() {
@@ -317,7 +334,13 @@ public final class PlayBoundaryTest {
         x.by(0);
         x.take(7);
         Due.put(x, "beat");
+        Due.is("by nobody", -1, x.fewest(0));
+        Due.is("by one", 1, x.least());
+        Due.is("the line of one", 1, x.strike(0, 1));
         Due.is("24", 24, x.clear());
+        Due.is("by nobody now", 0, x.fewest(0));
+        Due.is("without", 0, x.least());
+        Due.is("no line", 0, x.strike(0, 1));
         Due.is("none now", 0, x.clear());
         Due.is("off", -1, x.at(-1, 0));
         Due.is("no lines", 0, x.about(10));

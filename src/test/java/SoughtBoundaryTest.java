@@ -6,6 +6,9 @@ public final class SoughtBoundaryTest {
         bySetsAlone();
         limitAside();
         fewestSwaps();
+        fewestOfOnes();
+        fewestOfTwoRods();
+        uncrossed();
         leastHoldFirst();
         holdsByNumber();
         fewestOrNone();
@@ -130,6 +133,115 @@ public final class SoughtBoundaryTest {
         Due.rule(costly, "may who=1 or beat#1;");
         Due.is("the least hold at first would cost", 0, costly.fewest(3));
         Due.is("so another is taken", 4, costly.found(3, 0, 0));
+        SixHands turns = new SixHands(3);
+        turns.puppeteer(1, 7);
+        turns.figure(0, 1);
+        turns.figure(0, 1);
+        Due.play(turns, "enter 0 at 1;beat;exit 0;enter 1 at 1;beat;beat;");
+        Due.rule(turns, "may beat<2 or right=1;");
+        Due.is("one leaves as the other comes", 0, turns.fewest(1));
+        Due.is("by the hand that is right later", 2, turns.found(1, 1, 1));
+        Due.is("a play of swaps", 138, turning().fewest(7));
+        SixHands empty = turning();
+        empty.fewest(7);
+        empty.clear();
+        Due.is("none of them is left", 0, empty.fewest(7));
+    }
+
+    private static void fewestOfOnes() {
+        Due.says(0, "a plan whose BEATS all CAN BE, of the fewest SWAPS;");
+        for (int hand = 0; hand < 6; hand++) {
+            SixHands x = one(0, 3, 3);
+            Due.rule(x, "may beat>0 or 2*who+right=" + hand + ";");
+            Due.is("hand " + hand + " holds on", 0, x.fewest(7));
+            Due.is("at the last", 1 << hand, x.found(7, 2, 0));
+        }
+        SixHands last = new SixHands(3);
+        for (int i = 0; i < 3; i++) {
+            last.puppeteer(1, 7);
+        }
+        Booths.stand(last, 1, 1, 1, 1, 1, 1);
+        Due.play(last, "beat;beat;");
+        Due.rule(last, "may beat>0 or 2*who+right=5-figure;pass 1=2;");
+        Due.is("the last of all ways to hold six", 0, last.fewest(7));
+        Due.is("it holds on", 1, last.found(7, 2, 5));
+        for (int figure = 0; figure < 5; figure++) {
+            SixHands x = new SixHands(3);
+            for (int i = 0; i < 3; i++) {
+                x.puppeteer(1, 7);
+            }
+            Booths.stand(x, 1, 1, 1, 1, 1);
+            Due.play(x, "beat;");
+            String held = "may 2*who+right=figure and not figure+beat*9=" + (figure + 9) + " or 2*who+right=5 and figure+beat*9=" + (figure + 9);
+            Due.rule(x, held + ";pass figure=" + figure + " and from=" + figure / 2 + " and to=2;");
+            Due.is("one of five is passed to the free hand", 1, x.fewest(7));
+            Due.is("by which it is held", 32, x.found(7, 1, figure));
+            Due.rule(x, held + ";pass not figure=" + figure + ";");
+            Due.is("it can't be", -1, x.fewest(7));
+        }
+    }
+
+    private static void fewestOfTwoRods() {
+        Due.says(0, "a plan whose BEATS all CAN BE, of the fewest SWAPS;");
+        for (int from = 0; from < 3; from++) {
+            for (int to = 0; to < 3; to++) {
+                SixHands x = one(2, 2, 3);
+                String held = "may who=" + from + " and beat=0 or who=" + to + " and beat=1;";
+                Due.rule(x, held + "pass from=" + from + " and to=" + to + ";");
+                Due.is("two rods from " + from + " to " + to, from == to ? 0 : 1, x.fewest(7));
+                Due.is("at last", 3 << 2 * to, x.found(7, 1, 0));
+                Due.rule(x, held + "pass not from=" + from + " or not to=" + to + ";");
+                Due.is("by all passes but that", from == to ? 0 : -1, x.fewest(7));
+            }
+        }
+    }
+
+    private static void uncrossed() {
+        Due.says(0, "a plan whose BEATS all CAN BE, of the fewest SWAPS;");
+        int[][] homes = {{1, 3, 6}, {1, 6, 3}, {3, 1, 6}, {3, 6, 1}, {6, 1, 3}, {6, 3, 1}, {3, 3, 3}, {6, 1, 6}};
+        for (int[] h : homes) {
+            for (int kinds = 0; kinds < 4; kinds++) {
+                for (int place = 2; place <= 4; place++) {
+                    leastUncrossed(h, new int[] {kinds % 2 * 2, kinds / 2 * 2}, place);
+                }
+            }
+        }
+        int[][] places = {{3, 4, 5}, {3, 5, 4}, {4, 3, 5}, {4, 5, 3}, {5, 3, 4}, {5, 4, 3}, {4, 4, 3}, {3, 4, 3}, {5, 4, 4}};
+        int[][] due = {{1, 2, 4}, {1, 4, 2}, {2, 1, 4}, {2, 4, 1}, {4, 1, 2}, {4, 2, 1}, {2, 4, 1}, {1, 4, 2}, {4, 1, 2}};
+        for (int i = 0; i < places.length; i++) {
+            SixHands x = new SixHands(8);
+            x.puppeteer(3, 7);
+            x.puppeteer(5, 7);
+            Booths.stand(x, places[i]);
+            for (int figure = 0; figure < 3; figure++) {
+                Due.is("figure " + figure + " of three, row " + i, due[i][figure], x.found(3, 0, figure));
+            }
+        }
+    }
+
+    /** One at 3 and one at a place, by all who reach them: the least holds of which no hands cross. */
+    private static void leastUncrossed(int[] homes, int[] kinds, int place) {
+        SixHands x = new SixHands(8);
+        for (int home : homes) {
+            x.puppeteer(home, 7);
+        }
+        x.figure(kinds[0], 1);
+        x.figure(kinds[1], 1);
+        Due.play(x, "enter 0 at 3;enter 1 at " + place + ";beat;");
+        for (int one = 0; one < (kinds[0] == 2 ? 3 : 6); one++) {
+            for (int other = 0; other < (kinds[1] == 2 ? 3 : 6); other++) {
+                int hands = kinds[0] == 2 ? 3 << 2 * one : 1 << one;
+                int others = kinds[1] == 2 ? 3 << 2 * other : 1 << other;
+                x.hold(0, 0, hands);
+                x.hold(0, 1, others);
+                if (x.judge(0) == -1) {
+                    Due.is("the least hold at 3", hands, x.found(7, 0, 0));
+                    Due.is("the least hold at " + place, others, x.found(7, 0, 1));
+                    return;
+                }
+            }
+        }
+        Due.is("there is none", -1, x.fewest(7));
     }
 
     private static void leastHoldFirst() {
@@ -154,6 +266,14 @@ public final class SoughtBoundaryTest {
         Due.is("a swap in beat 1 or 2", 1, late.fewest(3));
         Due.is("the least hold in beat 1, too", 1, late.found(3, 1, 0));
         Due.is("and the swap in beat 2", 4, late.found(3, 2, 0));
+        SixHands paid = one(0, 3, 2);
+        Due.rule(paid, "may beat=0 and who+right=0 or beat=1 and right=1 or beat=2 and who=right;");
+        Due.is("one swap, in beat 1", 1, paid.fewest(3));
+        Due.is("not the least hold, which would cost", 8, paid.found(3, 1, 0));
+        Due.is("nor behind it", 8, paid.found(3, 2, 0));
+        SixHands forced = one(0, 2, 2);
+        Due.rule(forced, "may beat=0 and right=0 or beat=1 and who=1 and right=1;pass from=to;");
+        Due.is("the least hold can't be passed on", 4, forced.found(3, 0, 0));
     }
 
     private static void holdsByNumber() {
@@ -342,6 +462,19 @@ public final class SoughtBoundaryTest {
         walk.hold(1, 0, 1);
         Due.is("those ahead of b needn't be", 1, walk.ill(0, 2));
         Due.is("all others alone", -1, walk.ill(1, 2));
+        SixHands six = new SixHands(3);
+        for (int i = 0; i < 3; i++) {
+            six.puppeteer(1, 7);
+        }
+        Booths.stand(six, 1, 1, 1, 1);
+        six.figure(0, 1);
+        six.figure(0, 1);
+        six.rules(2, 0);
+        Due.play(six, "beat;beat;");
+        six.take(3);
+        Due.is("two of four are passed", 2, six.ill(0, 2));
+        Due.is("the other two", 2, six.ill(1, 2));
+        Due.is("none of four", 0, six.ill(2, 2));
         SixHands alone = one(0, 2, 1);
         alone.take(1);
         Due.is("there are no others", -1, alone.ill(0, 1));

@@ -46,6 +46,7 @@ public final class TextBoundaryTest {
         tapeIsCut();
         endRefused();
         textsByNumber();
+        behindFaults();
         textRefused();
         latestFault();
         faultRefused();
@@ -151,6 +152,11 @@ public final class TextBoundaryTest {
         bad("x".repeat(300), 1, 0);
         good("may who=1or 1=1;");
         bad("may who=1 orwho=1;", 1, 10);
+        // Longer than any word, by a letter and by many; the first letters alone would stand there.
+        for (String word : new String[] {"ororor", "ororoor", "or" + "x".repeat(5), "andandand", "figuref"}) {
+            bad("may 1=1 " + word + " 1=1;", 1, 8);
+        }
+        bad("may figuref=1;", 1, 4);
     }
 
     private static void digits() {
@@ -328,7 +334,13 @@ public final class TextBoundaryTest {
     }
 
     private static void compared(int left, String sign, int right, boolean due) {
-        Due.is(left + sign + right, due ? 1 : 0, shows(left + sign + right) ? 1 : 0);
+        String ask = left + sign + right;
+        Due.is(ask, due ? 1 : 0, shows(ask) ? 1 : 0);
+        Due.is("not " + ask, due ? 0 : 1, shows("not " + ask) ? 1 : 0);
+        for (String so : new String[] {"1=1", "1#2", "1<2", "1<=1", "2>1", "1>=1"}) {
+            Due.is(ask + " and " + so, due ? 1 : 0, shows(ask + " and " + so) ? 1 : 0);
+            Due.is("not " + so + " or " + ask, due ? 1 : 0, shows("not " + so + " or " + ask) ? 1 : 0);
+        }
     }
 
     /** Behind a whole ask ; ends the clause, so that the end is no fault. */
@@ -443,6 +455,8 @@ public final class TextBoundaryTest {
                 places[i] = i < many ? 7 : i;
             }
             Booths.stand(x, places);
+            // Those that are there in the next beat don't count in this one.
+            Due.play(x, many < 6 ? "go 0 to 6;beat;" : "beat;");
             Due.rule(x, "shows many=" + many + " and place=7 and seat=7;");
             Due.is(many + " at one place", (1 << many) - 1, x.sees(0, 7));
             Due.is("from another seat", 0, x.sees(0, 6));
@@ -703,6 +717,21 @@ public final class TextBoundaryTest {
         Due.is("bytes come behind them", 25, x.about(8));
         Due.is("both are the text", 0, x.text());
         Due.is("beat; hit 0,0;", 1, x.played(0));
+        // The last token ends where the tape was cut, whatever stood behind it.
+        cut("exit 19;", 6, 6);
+        cut("may 1=99999;", 10, 10);
+        cut("beat;beats;", 9, 9);
+        cut("may 1<=1;", 6, 6);
+        cut("beat;  ?", 6, -1);
+    }
+
+    private static void cut(String text, int length, int place) {
+        SixHands x = new SixHands(8);
+        Due.put(x, text);
+        x.end(length);
+        Due.is(length + " bytes of " + text, place < 0 ? 0 : -1, x.text());
+        Due.is("its fault", place < 0 ? 0 : 1, x.fault(0));
+        Due.is("its place", place, x.fault(1));
     }
 
     private static void endRefused() {
@@ -740,6 +769,38 @@ public final class TextBoundaryTest {
         Due.is("its beats", 2, x.about(7));
         x.played(1);
         Due.is("the second is as it was", 3, x.about(7));
+    }
+
+    private static void behindFaults() {
+        Due.says(7, "The tape (empty then) is a TEXT: its number.");
+        String law = "may not (1+(2*-(1-1)))=1 and not -who*2/1<=3 or 1=1;";
+        for (int length = 0; length < law.length(); length++) {
+            SixHands x = new SixHands(3);
+            x.figure(0, 1);
+            Due.play(x, "enter 0 at 1;beat;");
+            // What was read of it, to its fault, is no part of the next ones.
+            Due.read(x, law.substring(0, length) + " ?");
+            Due.is("text", 1, Due.read(x, "shows ((((((((seat))))))))=1;"));
+            x.by(1);
+            Due.is("from seat 1", 1, x.sees(0, 1));
+            Due.is("not from seat 0", 0, x.sees(0, 0));
+        }
+        SixHands x = new SixHands(3);
+        x.figure(0, 1);
+        Due.play(x, "enter 0 at 1;beat;");
+        for (int i = 0; i < 12; i++) {
+            Due.is("a fault", -1, Due.read(x, "shows ((((((((1+" + "1+".repeat(120) + "?"));
+            Due.is("a fault behind a law", -1, Due.read(x, "shows not " + "1+".repeat(120) + "1=1;exit"));
+            Due.is("its place", 258, x.fault(1));
+        }
+        Due.is("text", 1, Due.read(x, "shows seat=1;"));
+        x.by(1);
+        Due.is("from seat 1", 1, x.sees(0, 1));
+        Due.is("not from seat 0", 0, x.sees(0, 0));
+        Due.is("a fault behind a law", -1, Due.read(x, "shows not 1=1;exit"));
+        Due.is("text", 2, Due.read(x, "shows 1=1;"));
+        x.by(2);
+        Due.is("seen", 1, x.sees(0, 0));
     }
 
     private static void textRefused() {
